@@ -22,7 +22,7 @@ public final class TypeChain {
     /** What begins a line of the text. The first eight are also the numbers of rule(). */
     private static final int CHAIN = 0, PITCH = 1, GAP = 2, COLUMNS = 3, POWER = 4, START = 5, STEP = 6;
     private static final int ROWS = 7, HOLE = 8, PUT = 9, GO = 10, SPACE = 11, SKIP = 12;
-    private static final int WORD_COUNT = 13, WORD_LENGTH = 7, RULE_ORDERS = 8;
+    private static final int WORD_COUNT = SKIP + 1, WORD_LENGTH = 7, RULE_ORDERS = 8;
     private static final String WORDS =
         "chain  pitch  gap    columnspower  start  step   rows   hole   put    go     space  skip   ";
 
@@ -32,12 +32,16 @@ public final class TypeChain {
     private static final int[] AT_FIRST = {6, 3, 2, 20, 40, 3, 2, 12};
 
     /** Kinds of TOKENS beside the two signs, which stand for themselves. */
-    private static final int END = 0, NAME = 1, NUMBER = 2;
+    private static final int END = 0, NAME = 1, NUMBER = 2, NO_TOKEN = 3;
+
+    /** Lines of hole and put on one tape: each has 7 bytes at least. */
+    private static final int MOST_REACHES = MOST_BYTES / 7;
 
     private Rules rules = new Rules();
     private Rules draft = new Rules();
     private final Reader reader = new Reader();
-    private final Printer printer = new Printer(new Page(), rules, rules.chain);
+    private final Page paper = new Page();
+    private final Printer printer = new Printer(paper, rules, rules.chain);
     private final Trials trials = new Trials(rules);
     private final Sheets sheets = new Sheets();
     private boolean wasRun;
@@ -159,7 +163,11 @@ public final class TypeChain {
         if (h < 1 || h > MOST_POWER) {
             return BAD;
         }
-        return printer.canStrike() ? printer.strikeWith(trials.printer.strike, h) : STATE;
+        if (!printer.canStrike()) {
+            return STATE;
+        }
+        // struck by the hammers of the trials, the line and its record stay as they are
+        return trials.printer.strike.make(rules.chain, printer.letters, rules.values[COLUMNS], h, printer.tick);
     }
 
     public int go() {
@@ -240,8 +248,8 @@ public final class TypeChain {
             case 0: return printer.tick;
             case 1: return printer.row;
             case 2: return printer.pages;
-            case 3: return printer.placesStruck(1);
-            case 4: return printer.placesStruck(2);
+            case 3: return paper.placesStruck(1);
+            case 4: return paper.placesStruck(2);
             default: return BAD;
         }
     }
@@ -250,7 +258,8 @@ public final class TypeChain {
         if (!isRow(row) || !isColumn(c) || what != 0 && what != 1) {
             return BAD;
         }
-        return what == 0 ? printer.letterOnPage(row, c) : printer.timesOnPage(row, c);
+        int place = row * MOST_COLUMNS + c;
+        return what == 0 ? paper.letters[place] : paper.times[place];
     }
 
     // ---- programs
@@ -445,9 +454,12 @@ public final class TypeChain {
             int way = (c * gap + t) % turn;
             int least = turn;
             for (int i = 0; i < size; i++) {
-                if (letters[i] == letter) {
-                    int wait = i * pitch - way;
-                    least = Math.min(least, wait < 0 ? wait + turn : wait);
+                int wait = i * pitch - way;
+                if (wait < 0) {
+                    wait += turn;
+                }
+                if (letters[i] == letter && wait < least) {
+                    least = wait;
                 }
             }
             return least == turn ? NONE : t + least;
@@ -592,12 +604,13 @@ public final class TypeChain {
         final byte[] bytes = new byte[MOST_BYTES];
         int length;
         int fault, faultPlace, lines;
-        private int place, kind, from, number;
+        /** The latest token: its kind, its first byte, the place behind it, and its worth if it is a NUMBER. */
+        private int kind, from, place, number;
         private int wordsTold;
         /** Holes and puts, told before the rows and columns may be known: looked at behind all. */
-        private final int[] laterFault = new int[MOST_BYTES];
-        private final int[] laterReach = new int[MOST_BYTES];
-        private final int[] laterPlace = new int[MOST_BYTES];
+        private final int[] laterFault = new int[MOST_REACHES];
+        private final int[] laterReach = new int[MOST_REACHES];
+        private final int[] laterPlace = new int[MOST_REACHES];
         private int laterSize;
 
         boolean append(long v) {
@@ -647,17 +660,15 @@ public final class TypeChain {
                 return fail(5, from);
             }
             wordsTold |= 1 << word;
-            return readRest(word, rules) && take(';');
-        }
-
-        private boolean readRest(int word, Rules rules) {
+            boolean good = true;
             switch (word) {
-                case CHAIN: return readChain(rules.chain);
-                case HOLE: return readHole(rules.channels);
-                case PUT: return readPut(rules.program);
-                case GO: rules.program.addOrder(GO, 0, 0); return true;
-                default: return readNumbered(word, rules);
+                case CHAIN: good = readChain(rules.chain); break;
+                case HOLE: good = readHole(rules.channels); break;
+                case PUT: good = readPut(rules.program); break;
+                case GO: rules.program.addOrder(GO, 0, 0); break;
+                default: good = readNumbered(word, rules); break;
             }
+            return good && take(';');
         }
 
         private boolean readNumbered(int word, Rules rules) {
@@ -718,7 +729,7 @@ public final class TypeChain {
 
         /** Keeps how many rows or columns this line needs, with the place of the number just taken. */
         private void lookLater(int laterKind, int reach) {
-            if (laterSize < MOST_BYTES) {
+            if (laterSize < MOST_REACHES) {
                 laterFault[laterSize] = laterKind;
                 laterReach[laterSize] = reach;
                 laterPlace[laterSize] = from;
@@ -741,10 +752,20 @@ public final class TypeChain {
         }
 
         private boolean takeNumber(int low, int high) {
-            return take(NUMBER) && (number >= low && number <= high || fail(3, from));
+            if (!nextToken()) {
+                return false;
+            }
+            if (kind != NUMBER) {
+                return fail(2, from);
+            }
+            number = 0;
+            for (int i = from; i < place; i++) {
+                number = number * 10 + (bytes[i] - '0');
+            }
+            return number >= low && number <= high || fail(3, from);
         }
 
-        /** Reads one token, as long as may be: its kind, its first byte, and the place behind it. */
+        /** Reads one token, as long as may be; answers false if there is none. */
         private boolean nextToken() {
             while (place < length && bytes[place] == ' ') {
                 place++;
@@ -754,35 +775,25 @@ public final class TypeChain {
                 kind = END;
                 return true;
             }
-            int sign = bytes[place];
-            if (isSmallLetter(sign)) {
-                return nextName();
-            }
-            if (isFigure(sign)) {
-                return nextNumber();
-            }
+            kind = kindOf(bytes[place]);
             place++;
-            kind = sign;
-            return sign == ';' || sign == ',' || fail(1, from);
-        }
-
-        private boolean nextName() {
-            while (place < length && isSmallLetter(bytes[place])) {
+            while ((kind == NAME || kind == NUMBER) && place < length && kindOf(bytes[place]) == kind) {
                 place++;
             }
-            kind = NAME;
+            if (kind == NO_TOKEN || kind == NUMBER && place - from > 2) {
+                return fail(1, from);
+            }
             return true;
         }
 
-        private boolean nextNumber() {
-            number = 0;
-            while (place < length && isFigure(bytes[place])) {
-                // the wrap-around of a long row of figures is harmless: it is refused below
-                number = number * 10 + (bytes[place] - '0');
-                place++;
+        private static int kindOf(int sign) {
+            if (sign >= 'a' && sign <= 'z') {
+                return NAME;
             }
-            kind = NUMBER;
-            return place - from <= 2 || fail(1, from);
+            if (sign >= '0' && sign <= '9') {
+                return NUMBER;
+            }
+            return sign == ';' || sign == ',' ? sign : NO_TOKEN;
         }
 
         /** Which word the token is; NONE if it begins no line. */
@@ -813,14 +824,6 @@ public final class TypeChain {
             return bytes[i] - 'a' + 1;
         }
 
-        private static boolean isSmallLetter(int sign) {
-            return sign >= 'a' && sign <= 'z';
-        }
-
-        private static boolean isFigure(int sign) {
-            return sign >= '0' && sign <= '9';
-        }
-
         private boolean fail(int number, int at) {
             fault = number;
             faultPlace = at;
@@ -830,9 +833,8 @@ public final class TypeChain {
 
     /** How a line was struck, and what is told that it shows. */
     private static final class Strike {
-        /** For each column the tick of its strike (NONE: not struck), the slug that was meant, what is seen. */
+        /** For each column the tick of its strike (NONE: not struck), and what is told to be seen there. */
         final int[] tickOf = new int[MOST_COLUMNS];
-        final int[] slugOf = new int[MOST_COLUMNS];
         final int[] told = new int[MOST_COLUMNS];
         boolean wasMade;
         int total, most;
@@ -850,8 +852,15 @@ public final class TypeChain {
             // each tick that is looked at has a strike, so there are no more of them than columns
             for (int n = 0; n < MOST_COLUMNS && left > 0; n++) {
                 int at = earliestDue();
-                strikeAt(at, power, chain, letters);
+                strikeAt(at, power);
                 behind = at + 1;
+                for (int i = 0; i < left; i++) {
+                    int c = open[i];
+                    if (due[i] == at) {
+                        waited |= 1L << c;
+                        due[i] = chain.nextTick(c, letters[c], behind);
+                    }
+                }
             }
             return behind - start;
         }
@@ -881,20 +890,16 @@ public final class TypeChain {
             return least;
         }
 
-        private void strikeAt(int at, int power, Chain chain, int[] letters) {
+        private void strikeAt(int at, int power) {
             int hits = 0;
             int kept = 0;
             for (int i = 0; i < left; i++) {
-                int c = open[i];
-                boolean faced = due[i] == at;
-                if (faced && hits < power) {
-                    tickOf[c] = at;
-                    slugOf[c] = chain.slugFacing(c, at);
+                if (due[i] == at && hits < power) {
+                    tickOf[open[i]] = at;
                     hits++;
                 } else {
-                    open[kept] = c;
-                    due[kept] = faced ? chain.nextTick(c, letters[c], at + 1) : due[i];
-                    waited |= faced ? 1L << c : 0L;
+                    open[kept] = open[i];
+                    due[kept] = due[i];
                     kept++;
                 }
             }
@@ -904,11 +909,15 @@ public final class TypeChain {
 
         /** What a struck column shows, if the chain lay k slugs further on. */
         int shownAfterSlip(Chain chain, int k, int c) {
-            int shown = slugOf[c] + k;
-            if (shown >= chain.size) {
-                shown -= chain.size;
+            int slug = chain.slugFacing(c, tickOf[c]);
+            if (slug < 0) {
+                return NONE;
             }
-            return shown < 0 || shown >= chain.size ? NONE : chain.letters[shown];
+            slug += k;
+            if (slug >= chain.size) {
+                slug -= chain.size;
+            }
+            return slug < chain.size ? chain.letters[slug] : NONE;
         }
 
         boolean fitsSlip(Chain chain, int k, int columns) {
@@ -973,7 +982,9 @@ public final class TypeChain {
             linesStruck = 0;
             strike.wasMade = false;
             Arrays.fill(letters, BLANK);
-            clearPage();
+            if (page != null) {
+                page.clear();
+            }
         }
 
         int lettersInLine() {
@@ -996,16 +1007,11 @@ public final class TypeChain {
             return true;
         }
 
-        /** How many ticks the line takes from now on, with a power; the printer itself stays as it is. */
-        int strikeWith(Strike into, int power) {
-            return into.make(chain, letters, rules.values[COLUMNS], power, tick);
-        }
-
         int strikeLine() {
             if (!canStrike()) {
                 return STATE;
             }
-            int taken = strikeWith(strike, rules.values[POWER]);
+            int taken = strike.make(chain, letters, rules.values[COLUMNS], rules.values[POWER], tick);
             markPage();
             Arrays.fill(letters, BLANK);
             tick += taken;
@@ -1021,10 +1027,13 @@ public final class TypeChain {
             int taken = rules.values[START] + k * rules.values[STEP];
             tick += taken;
             row += k;
-            if (row >= rows && rows > 0) {
-                pages += row / rows;
-                row %= rows;
-                clearPage();
+            if (rows < 1 || row < rows) {
+                return taken;
+            }
+            pages += row / rows;
+            row %= rows;
+            if (page != null) {
+                page.clear();
             }
             return taken;
         }
@@ -1036,46 +1045,27 @@ public final class TypeChain {
 
         /** Answers how many orders were done. */
         int runProgram() {
-            for (int k = 0; k < rules.program.size; k++) {
-                if (!carryOut(k)) {
+            Program program = rules.program;
+            for (int k = 0; k < program.size; k++) {
+                boolean done = true;
+                switch (program.kinds[k]) {
+                    case PUT: fillLine(program, k); break;
+                    case GO: done = strikeLine() != STATE; break;
+                    case SPACE: moveBy(program.numbers[k]); break;
+                    default: done = moveToHole(program.numbers[k]) != NONE; break;
+                }
+                if (!done) {
                     return k;
                 }
             }
-            return rules.program.size;
+            return program.size;
         }
 
-        private boolean carryOut(int k) {
-            int number = rules.program.numbers[k];
-            switch (rules.program.kinds[k]) {
-                case PUT: fillLine(k, number); return true;
-                case GO: return strikeLine() != STATE;
-                case SPACE: moveBy(number); return true;
-                default: return moveToHole(number) != NONE;
-            }
-        }
-
-        private void fillLine(int k, int first) {
-            int length = Math.min(rules.program.lengths[k], MOST_COLUMNS - first);
+        private void fillLine(Program program, int k) {
+            int first = program.numbers[k];
+            int length = Math.min(program.lengths[k], MOST_COLUMNS - first);
             for (int i = 0; i < length; i++) {
-                letters[first + i] = rules.program.letterOf(k, i);
-            }
-        }
-
-        int letterOnPage(int atRow, int c) {
-            return page == null ? BLANK : page.letters[atRow * MOST_COLUMNS + c];
-        }
-
-        int timesOnPage(int atRow, int c) {
-            return page == null ? 0 : page.times[atRow * MOST_COLUMNS + c];
-        }
-
-        int placesStruck(int often) {
-            return page == null ? 0 : page.placesStruck(often);
-        }
-
-        private void clearPage() {
-            if (page != null) {
-                page.clear();
+                letters[first + i] = program.letterOf(k, i);
             }
         }
 

@@ -651,6 +651,7 @@ public final class ModelTest {
             if (!due("feed(" + v + ")", x.feed(v), m.feed(v))) return false;
         }
         int n = chance.nextInt(6) == 0 ? m.tape.size() : Math.min(s.length(), m.tape.size());
+        if (chance.nextInt(12) == 0) n = upTo(n);
         if (!due("end(" + n + ")", x.end(n), m.end(n))) return false;
         if (!due("text() \"" + s + "\"", x.text(), m.text())) return false;
         return due("fault()", x.fault(), m.fault);

@@ -105,6 +105,20 @@ public final class PromiseTest {
         due("end(7)", x.end(7), BAD);
         due("end(6) again", x.end(6), 6);
         due("text()", x.text(), 2);
+        x.feed(0x676f676f676f676fL);
+        x.end(2);
+        due("a name that is cut: go, and then the end", x.text(), -12);
+        load(x, "pitch 33");
+        x.end(7);
+        due("a number that is cut: 3, and then the end", x.text(), -17);
+        due("its fault", x.fault(), 2);
+        load(x, "put,a 0;go;".repeat(12) + "pitch 3;".repeat(13) + "chai");
+        due("a full tape", x.text(), -10 - 140);
+        load(x, " ".repeat(238) + "go");
+        due("a name at the tape's last place", x.text(), -10 - 240);
+        load(x, " ".repeat(232) + "pitch 12");
+        due("a number at the tape's last place", x.text(), -10 - 238);
+        due("its fault", x.fault(), 3);
     }
 
     private static void text() {

@@ -1,17 +1,23 @@
+import java.io.PrintWriter;
+import java.io.StringWriter;
 import java.lang.management.ManagementFactory;
 import java.lang.reflect.Constructor;
 import java.lang.reflect.Field;
 import java.lang.reflect.Member;
 import java.lang.reflect.Method;
 import java.lang.reflect.Modifier;
+import java.nio.file.DirectoryStream;
 import java.nio.file.Files;
 import java.nio.file.Path;
 import java.util.ArrayList;
 import java.util.List;
+import java.util.Map;
 import java.util.Random;
+import java.util.TreeMap;
 import java.util.TreeSet;
 import java.util.regex.Matcher;
 import java.util.regex.Pattern;
+import java.util.spi.ToolProvider;
 
 /** No call throws, none makes an object, and the class keeps to what LANGUAGE.md lets it use. */
 public final class SafetyTest {
@@ -68,6 +74,11 @@ public final class SafetyTest {
                     hold(false, m.getName() + java.util.Arrays.toString(args) + " threw " + e.getCause());
                 }
             }
+        }
+        for (long full : new long[] {0x6161616161616161L, 0x3131313131313131L, 0x2020202020202020L, 0x3b3b3b3b3b3b3b3bL, 0}) {
+            TypeChain x = new TypeChain();
+            for (int i = 0; i < 30; i++) x.feed(full);
+            x.text();
         }
         // far more calls than are promised: the tick runs over, and still nothing is thrown
         TypeChain x = new TypeChain();
@@ -154,11 +165,56 @@ public final class SafetyTest {
         hold(methods > 60, "only " + methods + " methods were found");
     }
 
+    /** Which methods each method calls, as javap shows it. */
+    private static Map<String, TreeSet<String>> callsOf() throws java.io.IOException, java.net.URISyntaxException {
+        Map<String, TreeSet<String>> calls = new TreeMap<>();
+        Path dir = Path.of(TypeChain.class.getProtectionDomain().getCodeSource().getLocation().toURI());
+        try (DirectoryStream<Path> files = Files.newDirectoryStream(dir, "TypeChain*.class")) {
+            for (Path file : files) {
+                String owner = file.getFileName().toString().replace(".class", "");
+                if (owner.startsWith("TypeChainRuns")) continue;
+                StringWriter out = new StringWriter();
+                PrintWriter print = new PrintWriter(out);
+                ToolProvider.findFirst("javap").orElseThrow().run(print, print, "-c", "-p", file.toString());
+                String method = "";
+                for (String line : out.toString().split("\\R")) {
+                    Matcher head = Pattern.compile("^  \\S.*?([\\w$]+)\\(.*\\);$").matcher(line);
+                    Matcher call = Pattern.compile("// Method (?:([\\w$/]+)\\.)?(\\w+|\"<init>\"):").matcher(line);
+                    if (head.find()) {
+                        method = owner + "." + (head.group(1).equals(owner) ? "\"<init>\"" : head.group(1));
+                        calls.put(method, new TreeSet<>());
+                    } else if (call.find()) {
+                        calls.get(method).add((call.group(1) == null ? owner : call.group(1)) + "." + call.group(2));
+                    }
+                }
+            }
+        }
+        return calls;
+    }
+
+    private static int depth(Map<String, TreeSet<String>> calls, String method, int open) {
+        int most = 0;
+        if (open > 20) return most;
+        for (String called : calls.getOrDefault(method, new TreeSet<>())) most = Math.max(most, depth(calls, called, open + 1));
+        return most + 1;
+    }
+
+    private static void stayFlat() throws java.io.IOException, java.net.URISyntaxException {
+        Map<String, TreeSet<String>> calls = callsOf();
+        for (Method m : face()) {
+            int depth = depth(calls, "TypeChain." + m.getName(), 0);
+            hold(depth >= 1 && depth <= 8, m.getName() + " calls " + depth + " deep");
+        }
+        hold(depth(calls, "TypeChain.best", 0) > 4, "the calls were not found");
+        hold(depth(calls, "TypeChain.\"<init>\"", 0) <= 8, "the constructor calls too deep");
+    }
+
     public static void main(String[] args) throws Exception {
         throwNothing();
         makeNothing();
         keepTheFace();
         keepTheLanguage();
+        stayFlat();
         System.out.println("safety and language: " + wrong + " wrong");
         if (wrong != 0) System.exit(1);
     }
