@@ -222,6 +222,7 @@ public final class PromiseTest {
         faulty("hole 12 0;", 6, 5);
         faulty("rows 3;hole 3 0;", 6, 12);
         faulty("hole 3 0;rows 3;", 6, 5);
+        faulty("put,a0;".repeat(24) + "hole0 0;".repeat(7) + "hole12 0;", 6, 228);
         faulty("put,ab 19;", 7, 7);
         faulty("put,a 20;", 7, 6);
         faulty("put," + "a".repeat(50) + " 0;columns 40;", 7, 55);
@@ -359,6 +360,11 @@ public final class PromiseTest {
         x.put(4, 3);
         due("ticks(1) with a letter that is not there", x.ticks(1), STATE);
         due("ticks(0) is bad before", x.ticks(0), BAD);
+        TypeChain y = told("chain,ab;pitch 2;gap 4;columns 40;");
+        for (int c = 0; c < 40; c++) y.put(c, 1);
+        due("40 columns, one at a time", y.ticks(1), 157);
+        due("40 columns, 39 at a time", y.ticks(39), 5);
+        due("40 columns at once", y.ticks(40), 1);
         due("ticks of blanks", crowdless().ticks(1), 0);
         promise = 16;
         due("go() with a letter that is not there", x.go(), STATE);
