@@ -11,30 +11,9 @@ public final class PromiseTest {
         }
     }
 
-    private static void load(TypeChain x, String s) {
-        x.end(0);
-        for (int i = 0; i < s.length(); i += 8) {
-            long v = 0;
-            for (int j = 0; j < 8; j++) v = v << 8 | (i + j < s.length() ? s.charAt(i + j) & 255 : ' ');
-            x.feed(v);
-        }
-        x.end(s.length());
-    }
-
-    private static int tell(TypeChain x, String s) {
-        load(x, s);
-        return x.text();
-    }
-
-    private static TypeChain told(String s) {
-        TypeChain x = new TypeChain();
-        if (tell(x, s) < 0) due("the text " + s, x.fault(), 0);
-        return x;
-    }
-
     private static void faulty(String s, int fault, int place) {
-        TypeChain x = told("pitch 5;space 1;");
-        due("text of \"" + s + "\"", tell(x, s), -10 - place);
+        TypeChain x = Tape.told("pitch 5;space 1;");
+        due("text of \"" + s + "\"", Tape.tell(x, s), -10 - place);
         due("fault() of \"" + s + "\"", x.fault(), fault);
         due("rule(1) behind it", x.rule(1), 5);
         due("rule(8) behind it", x.rule(8), 1);
@@ -43,7 +22,7 @@ public final class PromiseTest {
 
     private static void good(String s, int lines) {
         TypeChain x = new TypeChain();
-        due("text of \"" + s + "\"", tell(x, s), lines);
+        due("text of \"" + s + "\"", Tape.tell(x, s), lines);
         due("fault() of \"" + s + "\"", x.fault(), 0);
         due("count(3) behind it", x.count(3), 0);
     }
@@ -108,15 +87,15 @@ public final class PromiseTest {
         x.feed(0x676f676f676f676fL);
         x.end(2);
         due("a name that is cut: go, and then the end", x.text(), -12);
-        load(x, "pitch 33");
+        Tape.load(x, "pitch 33");
         x.end(7);
         due("a number that is cut: 3, and then the end", x.text(), -17);
         due("its fault", x.fault(), 2);
-        load(x, "put,a 0;go;".repeat(12) + "pitch 3;".repeat(13) + "chai");
+        Tape.load(x, "put,a 0;go;".repeat(12) + "pitch 3;".repeat(13) + "chai");
         due("a full tape", x.text(), -10 - 140);
-        load(x, " ".repeat(238) + "go");
+        Tape.load(x, " ".repeat(238) + "go");
         due("a name at the tape's last place", x.text(), -10 - 240);
-        load(x, " ".repeat(232) + "pitch 12");
+        Tape.load(x, " ".repeat(232) + "pitch 12");
         due("a number at the tape's last place", x.text(), -10 - 238);
         due("its fault", x.fault(), 3);
     }
@@ -138,24 +117,24 @@ public final class PromiseTest {
         good("put,a 30;hole 59 0;rows 60;columns 31;", 4);
         good("hole 0 0;hole 0 0;put,a0;put,a0;go;go;space 1;space 1;skip 0;skip 0;", 10);
         good("go;".repeat(24) + "pitch 3;hole 1 1;", 26);
-        TypeChain x = told("chain,zy;rows 2;columns 3;hole 1 4;put,z 0;go;space 1;");
+        TypeChain x = Tape.told("chain,zy;rows 2;columns 3;hole 1 4;put,z 0;go;space 1;");
         x.run();
         x.put(2, 26);
-        due("all as at first", tell(x, ""), 0);
+        due("all as at first", Tape.tell(x, ""), 0);
         asAtFirst(x);
-        x = told("put,a 0;go;space 2;");
+        x = Tape.told("put,a 0;go;space 2;");
         x.run();
         x.put(1, 2);
-        due("what is refused", tell(x, "pitch 9;"), -16);
+        due("what is refused", Tape.tell(x, "pitch 9;"), -16);
         due("now(0) stays", x.now(0), 8);
         due("line(1) stays", x.line(1), 2);
         due("page stays", x.page(0, 0, 0), 1);
         due("struck(0) stays", x.struck(0), 1);
         due("ran(1) stays", x.ran(1), 1);
         due("order(2, 1) stays", x.order(2, 1), 2);
-        x = told("");
+        x = Tape.told("");
         x.sheet(0, 0, 3);
-        tell(x, "go;");
+        Tape.tell(x, "go;");
         due("sheets are not of the text", x.count(4), 3);
     }
 
@@ -230,15 +209,15 @@ public final class PromiseTest {
         faulty("hole 12 0;put,ab 19;", 6, 5);
         faulty("put,ab 19;hole 12 9;", 3, 18);
         TypeChain x = new TypeChain();
-        tell(x, "x");
+        Tape.tell(x, "x");
         due("fault()", x.fault(), 2);
-        tell(x, "");
+        Tape.tell(x, "");
         due("fault() of a good one", x.fault(), 0);
     }
 
     private static void rules() {
         promise = 6;
-        TypeChain x = told("chain,abcab;pitch 4;gap 5;columns 7;power 8;start 9;step 10;rows 11;go;go;");
+        TypeChain x = Tape.told("chain,abcab;pitch 4;gap 5;columns 7;power 8;start 9;step 10;rows 11;go;go;");
         int[] due = {5, 4, 5, 7, 8, 9, 10, 11, 2};
         for (int i = 0; i < due.length; i++) due("rule(" + i + ")", x.rule(i), due[i]);
         due("rule(-1)", x.rule(-1), BAD);
@@ -249,7 +228,7 @@ public final class PromiseTest {
         due("slug(-1)", x.slug(-1), BAD);
         due("slug(5)", x.slug(5), BAD);
         promise = 8;
-        x = told("rows 5;hole 4 0;hole 4 7;hole 1 3;");
+        x = Tape.told("rows 5;hole 4 0;hole 4 7;hole 1 3;");
         due("holes(4)", x.holes(4), 129);
         due("holes(1)", x.holes(1), 8);
         due("holes(0)", x.holes(0), 0);
@@ -259,7 +238,7 @@ public final class PromiseTest {
 
     private static void order() {
         promise = 9;
-        TypeChain x = told("put,xyz 3;go;space 8;skip 7;put,b 0;");
+        TypeChain x = Tape.told("put,xyz 3;go;space 8;skip 7;put,b 0;");
         int[][] due = {{0, 3, 3}, {1, 0, 0}, {2, 8, 0}, {3, 7, 0}, {0, 0, 1}};
         for (int k = 0; k < 5; k++) {
             for (int i = 0; i < 3; i++) due("order(" + k + ", " + i + ")", x.order(k, i), due[k][i]);
@@ -298,7 +277,7 @@ public final class PromiseTest {
         due("comes(0, 27, 0)", x.comes(0, 27, 0), BAD);
         due("comes(20, 1, 0)", x.comes(20, 1, 0), BAD);
         due("comes(0, 26, 0)", x.comes(0, 26, 0), NONE);
-        TypeChain y = told("chain,abca;");
+        TypeChain y = Tape.told("chain,abca;");
         due("two of a kind, the first", y.comes(0, 1, 1), 9);
         due("two of a kind, the next", y.comes(0, 1, 10), 12);
         promise = 12;
@@ -340,7 +319,7 @@ public final class PromiseTest {
 
     /** Pitch 2, gap 4, two slugs: all columns want the same tick. */
     private static TypeChain crowd(int power) {
-        TypeChain x = told("chain,ab;pitch 2;gap 4;columns 5;power " + power + ";");
+        TypeChain x = Tape.told("chain,ab;pitch 2;gap 4;columns 5;power " + power + ";");
         for (int c = 0; c < 3; c++) x.put(c, 1);
         return x;
     }
@@ -360,7 +339,7 @@ public final class PromiseTest {
         x.put(4, 3);
         due("ticks(1) with a letter that is not there", x.ticks(1), STATE);
         due("ticks(0) is bad before", x.ticks(0), BAD);
-        TypeChain y = told("chain,ab;pitch 2;gap 4;columns 40;");
+        TypeChain y = Tape.told("chain,ab;pitch 2;gap 4;columns 40;");
         for (int c = 0; c < 40; c++) y.put(c, 1);
         due("40 columns, one at a time", y.ticks(1), 157);
         due("40 columns, 39 at a time", y.ticks(39), 5);
@@ -408,12 +387,12 @@ public final class PromiseTest {
     }
 
     private static TypeChain crowdless() {
-        return told("power 1;");
+        return Tape.told("power 1;");
     }
 
     private static void slipsAndSeen() {
         promise = 18;
-        TypeChain x = told("chain,abca;");
+        TypeChain x = Tape.told("chain,abca;");
         due("slipped(0, 0) of none", x.slipped(0, 0), STATE);
         due("slipped(4, 0) of none", x.slipped(4, 0), BAD);
         x.put(0, 1);
@@ -465,7 +444,7 @@ public final class PromiseTest {
 
     private static void paper() {
         promise = 21;
-        TypeChain x = told("start 4;step 5;rows 6;hole 2 1;hole 5 1;hole 3 2;");
+        TypeChain x = Tape.told("start 4;step 5;rows 6;hole 2 1;hole 5 1;hole 3 2;");
         due("space(0)", x.space(0), 0);
         due("space(10)", x.space(10), BAD);
         due("space(-1)", x.space(-1), BAD);
@@ -499,7 +478,7 @@ public final class PromiseTest {
         due("now(1) stays", x.now(1), 2);
         due("now(2)", x.now(2), 5);
         promise = 23;
-        x = told("rows 1;");
+        x = Tape.told("rows 1;");
         x.space(9);
         due("pages of one row", x.now(2), 10);
         due("now(0)", x.now(0), 21);
@@ -532,7 +511,7 @@ public final class PromiseTest {
 
     private static void programs() {
         promise = 25;
-        TypeChain x = told("put,ab 0;go;space 1;put,z 1;go;space 2;");
+        TypeChain x = Tape.told("put,ab 0;go;space 1;put,z 1;go;space 2;");
         due("ran(0) before", x.ran(0), STATE);
         due("ran(3) before", x.ran(3), BAD);
         due("run() that ends at a go", x.run(), 4);
@@ -547,19 +526,19 @@ public final class PromiseTest {
         promise = 25;
         due("run() from now on", x.run(), 4);
         due("now(1)", x.now(1), 2);
-        x = told("skip 0;go;skip 3;go;");
+        x = Tape.told("skip 0;go;skip 3;go;");
         due("run() that ends at a skip", x.run(), 2);
         promise = 26;
         due("ran(0)", x.ran(0), 27);
         due("ran(1) with a line of blanks", x.ran(1), 1);
         due("ran(2)", x.ran(2), 2);
-        tell(x, "nothing;");
+        Tape.tell(x, "nothing;");
         due("ran(2) behind a text that is refused", x.ran(2), 2);
-        tell(x, "");
+        Tape.tell(x, "");
         due("ran(2) behind a text", x.ran(2), STATE);
         due("run() of none", x.run(), 0);
         due("ran(2) of none", x.ran(2), NONE);
-        x = told("put,a 0;go;");
+        x = Tape.told("put,a 0;go;");
         x.put(1, 2);
         x.run();
         due("a line that was put by hand", x.struck(0), 2);
@@ -570,7 +549,7 @@ public final class PromiseTest {
 
     private static void best() {
         promise = 27;
-        TypeChain x = told("chain,ba;put,ab 0;go;");
+        TypeChain x = Tape.told("chain,ba;put,ab 0;go;");
         due("best(0)", x.best(0), 2);
         due("best(10)", x.best(10), 1);
         due("best(11)", x.best(11), 2);
@@ -588,27 +567,27 @@ public final class PromiseTest {
         due("from tick 0, with a line of blanks", x.best(0), 2);
         due("run() takes longer", x.run(), 2);
         due("best(0) behind a run", x.best(0), 2);
-        x = told("chain,cab;space 1;");
+        x = Tape.told("chain,cab;space 1;");
         due("of several, ticks", x.best(0), 5);
         for (int i = 0; i < 3; i++) due("of several the least", x.best(10 + i), i + 1);
         // letters in columns 0, 3, 6 want slugs m, m - 2, m - 4 at one tick: c a e b d f lies so
-        x = told("put,c 0;put,a 3;put,e 6;go;");
+        x = Tape.told("put,c 0;put,a 3;put,e 6;go;");
         due("all three at tick 0", x.best(0), 1);
         int[] order = {3, 2, 1, 4, 5, 6};
         for (int i = 0; i < 6; i++) due("best(" + (10 + i) + ")", x.best(10 + i), order[i]);
-        tell(x, "chain,ba;go;");
+        Tape.tell(x, "chain,ba;go;");
         due("another text", x.best(0), 0);
         due("another text", x.best(10), 1);
-        due("seven slugs", told("chain,abcdefg;go;").best(0), STATE);
-        due("no program", told("chain,ab;").best(10), STATE);
-        due("no letter", told("go;put,z 0;go;").best(0), STATE);
-        due("no hole", told("skip 1;").best(14), STATE);
-        due("bad before state", told("skip 1;").best(16), BAD);
+        due("seven slugs", Tape.told("chain,abcdefg;go;").best(0), STATE);
+        due("no program", Tape.told("chain,ab;").best(10), STATE);
+        due("no letter", Tape.told("go;put,z 0;go;").best(0), STATE);
+        due("no hole", Tape.told("skip 1;").best(14), STATE);
+        due("bad before state", Tape.told("skip 1;").best(16), BAD);
     }
 
     private static void twice() {
         promise = 28;
-        TypeChain x = told("chain,ab;put,b 0;go;put,b 0;go;");
+        TypeChain x = Tape.told("chain,ab;put,b 0;go;put,b 0;go;");
         due("twice(0)", x.twice(0), 2);
         due("twice(1)", x.twice(1), 7);
         due("twice(2)", x.twice(2), 3);
@@ -618,34 +597,34 @@ public final class PromiseTest {
         x.space(2);
         x.put(9, 1);
         due("from tick 0, with a line of blanks", x.twice(1), 7);
-        x = told("put,z 0;go;");
+        x = Tape.told("put,z 0;go;");
         due("a letter that was not there", x.twice(0), 26);
         due("its ticks", x.twice(1), 19);
         due("none without it", x.twice(2), -1000004);
-        x = told("space 1;");
+        x = Tape.told("space 1;");
         due("of several the least", x.twice(0), 1);
         due("its ticks", x.twice(1), 5);
         due("no fewer", x.twice(2), 0);
         // a turn is longer by a slug, so the a of the second line comes 3 ticks later
-        x = told("chain,ab;put,ab 0;go;put,ab 0;go;");
+        x = Tape.told("chain,ab;put,ab 0;go;put,ab 0;go;");
         due("the best of what is worse", x.twice(0), 2);
         due("its ticks", x.twice(1), 10);
         due("fewer, below 0", x.twice(2), -2);
-        due("two letters that are not there", told("put,yz 0;go;").twice(0), -1000002);
-        due("no hole", told("skip 1;").twice(2), -1000002);
-        due("no program", told("").twice(0), -1000002);
-        due("48 slugs", told("chain," + "a".repeat(48) + ";go;").twice(0), -1000002);
-        due("48 slugs, bad before", told("chain," + "a".repeat(48) + ";go;").twice(3), -1000000);
-        x = told("chain," + "a".repeat(47) + ";put,b 0;go;");
+        due("two letters that are not there", Tape.told("put,yz 0;go;").twice(0), -1000002);
+        due("no hole", Tape.told("skip 1;").twice(2), -1000002);
+        due("no program", Tape.told("").twice(0), -1000002);
+        due("48 slugs", Tape.told("chain," + "a".repeat(48) + ";go;").twice(0), -1000002);
+        due("48 slugs, bad before", Tape.told("chain," + "a".repeat(48) + ";go;").twice(3), -1000000);
+        x = Tape.told("chain," + "a".repeat(47) + ";put,b 0;go;");
         due("47 slugs", x.twice(0), 2);
         due("47 slugs, ticks", x.twice(1), 142);
-        tell(x, "go;");
+        Tape.tell(x, "go;");
         due("another text", x.twice(1), 0);
     }
 
     private static void sheets() {
         promise = 29;
-        TypeChain x = told("columns 3;");
+        TypeChain x = Tape.told("columns 3;");
         due("sheet(0, 0, 0)", x.sheet(0, 0, 0), 1);
         due("sheet(3, 2, 40)", x.sheet(3, 2, 40), 1);
         due("sheet(4, 0, 1)", x.sheet(4, 0, 1), BAD);
@@ -677,7 +656,7 @@ public final class PromiseTest {
             due("the least in lane " + lane, x.read(1, lane, 0), -20);
         }
         promise = 31;
-        x = told("columns 3;");
+        x = Tape.told("columns 3;");
         x.sheet(2, 1, 5);
         for (int i = 0; i < 5; i++) x.lay(2, i, i == 1 ? 0 : i == 4 ? 27 : i + 1);
         due("read(2, 1, 0)", x.read(2, 1, 0), 2);
@@ -707,7 +686,7 @@ public final class PromiseTest {
 
     private static void count() {
         promise = 32;
-        TypeChain x = told("chain,abcab;rows 3;hole 2 1;hole 2 1;hole 0 3;");
+        TypeChain x = Tape.told("chain,abcab;rows 3;hole 2 1;hole 2 1;hole 0 3;");
         x.put(0, 1);
         x.put(7, 26);
         due("count(0)", x.count(0), 2);

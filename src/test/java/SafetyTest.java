@@ -43,24 +43,13 @@ public final class SafetyTest {
         return all;
     }
 
-    private static void tell(TypeChain x, String s) {
-        x.end(0);
-        for (int i = 0; i < s.length(); i += 8) {
-            long v = 0;
-            for (int j = 0; j < 8; j++) v = v << 8 | (i + j < s.length() ? s.charAt(i + j) & 255 : ' ');
-            x.feed(v);
-        }
-        x.end(s.length());
-        x.text();
-    }
-
     private static void throwNothing() throws ReflectiveOperationException {
         Random chance = new Random(7);
         List<Method> calls = face();
         for (int round = 0; round < 400; round++) {
             TypeChain x = new TypeChain();
             for (int i = 0; i < 600; i++) {
-                if (chance.nextInt(60) == 0) tell(x, TEXTS[chance.nextInt(TEXTS.length)]);
+                if (chance.nextInt(60) == 0) Tape.tell(x, TEXTS[chance.nextInt(TEXTS.length)]);
                 Method m = calls.get(chance.nextInt(calls.size()));
                 Object[] args = new Object[m.getParameterCount()];
                 for (int a = 0; a < args.length; a++) {
@@ -82,7 +71,7 @@ public final class SafetyTest {
         }
         // far more calls than are promised: the tick runs over, and still nothing is thrown
         TypeChain x = new TypeChain();
-        tell(x, "chain,ab;pitch 6;gap 6;start 20;step 20;rows 60;" + "skip 0;".repeat(24));
+        Tape.tell(x, "chain,ab;pitch 6;gap 6;start 20;step 20;rows 60;" + "skip 0;".repeat(24));
         for (int i = 0; i < 80000; i++) x.run();
         x.put(3, 1);
         x.put(4, 2);
