@@ -140,6 +140,9 @@ public final class EdgesOfFaultTest {
                 Edge.faulty(line[0].substring(0, line[0].length() - 1) + rest, 2, 0);
                 Edge.faulty(line[0].substring(1) + rest, 2, 0);
                 Edge.faulty("a" + line[0] + rest, 2, 0);
+                for (int i = 0; i < line[0].length(); i++) {
+                    Edge.faulty(line[0].substring(0, i) + "q" + line[0].substring(i + 1) + rest, 2, 0);
+                }
             }
             for (String name : new String[] {"a", "text", "line", "letters", "slug", "tick", "columnsa", "z".repeat(240)}) {
                 Edge.faulty(name, 2, 0);

@@ -68,6 +68,16 @@ public final class EdgesOfProgramsTest {
             Edge.due("now(0)", x.now(0), 38);
             Edge.due("page(0, 0, 1)", x.page(0, 0, 1), 1);
         });
+        // as far as the calls that an object is used for can bring the tick
+        Edge.test(25, "RUN: from now on ORDER by ORDER", () -> {
+            TypeChain x = Tape.told("start 20;step 20;rows 60;" + "skip 0;".repeat(24));
+            for (int i = 0; i < 460; i++) x.run();
+            ranIs(x, 24 * 1220, 0, NONE);
+            Edge.due("now(0)", x.now(0), 460 * 24 * 1220);
+            Edge.due("now(2)", x.now(2), 460 * 24 + 1);
+            x.put(0, 1);
+            Edge.due("go(): the chain is at slug 4489600 mod 6", x.go(), 7);
+        });
         Edge.test(25, "put: the LETTERS into THE LINE from COLUMN N on.", () -> {
             TypeChain x = Tape.told("columns 40;put," + "f".repeat(40) + " 0;put,a 39;put,bc 0;");
             x.run();

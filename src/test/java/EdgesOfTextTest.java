@@ -211,6 +211,34 @@ public final class EdgesOfTextTest {
                 for (int i = 0; i < 9; i++) Edge.due(lines[n] + " rule(" + i + ")", x.rule(i), i == n ? told[i] : first[i]);
             }
         });
+        Edge.test(4, words, () -> {
+            TypeChain x = new TypeChain();
+            for (int n = 1; n <= 4; n++) {
+                String orders = "put,xyz 1;go;skip 0;".repeat(n);
+                Edge.due("a text that is refused", Tape.tell(x, "chain,zy;rows 9;hole 8 7;" + orders + "?") < 0 ? 1 : 0, 1);
+                Edge.due("the next, that is taken", Tape.tell(x, "space 3;put,abcdef 2;"), 2);
+                Edge.due("rule(0)", x.rule(0), 6);
+                Edge.due("rule(7)", x.rule(7), 12);
+                Edge.due("rule(8)", x.rule(8), 2);
+                Edge.due("holes(8)", x.holes(8), 0);
+                Edge.due("count(2)", x.count(2), 1);
+                Edge.due("order(0, 0)", x.order(0, 0), 2);
+                Edge.due("order(1, 15)", x.order(1, 15), 6);
+                Edge.due("order(2, 0)", x.order(2, 0), BAD);
+            }
+        });
+        Edge.test(4, words, () -> {
+            TypeChain x = new TypeChain();
+            for (char letter = 'p'; letter <= 'u'; letter++) {
+                String put = "put," + ("" + letter).repeat(40) + "0;";
+                Edge.due("a text of many letters", Tape.tell(x, "columns 40;" + put.repeat(4)), 5);
+                Edge.due("rule(8)", x.rule(8), 4);
+                Edge.due("order(0, 10)", x.order(0, 10), letter - 'a' + 1);
+                Edge.due("order(3, 49)", x.order(3, 49), letter - 'a' + 1);
+                Edge.due("run()", x.run(), 4);
+                Edge.due("line(39)", x.line(39), letter - 'a' + 1);
+            }
+        });
         Edge.test(4, "(holes: if none is told, the one in ROW 0)", () -> {
             TypeChain x = Tape.told("hole 11 7;");
             Edge.due("holes(0)", x.holes(0), 0);
